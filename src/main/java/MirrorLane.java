@@ -1172,20 +1172,19 @@ public final class MirrorLane {
 
         private void lengthenRow() {
             Arrays.fill(after, 0);
-            for (int i = 0; i < places * LEVELS; i++) {
-                if (row[i] != 0) {
-                    spread(i / LEVELS, i % LEVELS, row[i]);
-                }
+            for (int from = 0; from < places; from++) {
+                spread(from);
             }
             for (int i = 0; i < places * LEVELS; i++) {
                 row[i] = after[i] % MODULUS;
             }
         }
 
-        private void spread(int from, int loops, long ways) {
+        private void spread(int from) {
             for (int way = from * MOST_LETTERS; way < from * MOST_LETTERS + letters; way++) {
-                if (loops + more[way] < LEVELS) {
-                    after[next[way] * LEVELS + loops + more[way]] += ways;
+                int to = next[way] * LEVELS + more[way];
+                for (int loops = 0; loops + more[way] < LEVELS; loops++) {
+                    after[to + loops] += row[from * LEVELS + loops];
                 }
             }
         }
