@@ -155,7 +155,7 @@ public final class MirrorLane {
     }
 
     public long those(int w, long k, long from, long to) {
-        if (!isMade(w) || k < 0 || k > FARTHEST || !isPower(from) || !isPower(to)) {
+        if (!isMade(w) || k < 0 || k > FARTHEST || !isStretch(from, to)) {
             return NONE;
         }
         powers.study(words[w].made, closing, h);
@@ -313,6 +313,10 @@ public final class MirrorLane {
 
     private static boolean isPower(long n) {
         return n >= 1 && n <= FARTHEST;
+    }
+
+    private static boolean isStretch(long from, long to) {
+        return isPower(from) && isPower(to) && from <= to;
     }
 
     /** Tells WORD w, a new one or one anew, by the first n bytes of the tape. */

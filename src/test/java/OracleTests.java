@@ -260,6 +260,7 @@ public final class OracleTests {
                 some += left[n] == k ? 1 : 0;
             }
             due("those " + w + " " + k, fast.those(w, k, from, to), some);
+            due("those back " + w + " " + k, fast.those(w, k, to, from), from == to ? some : -1);
             long all = 0;
             long first = -1;
             for (int n = 1; n <= SlowLane.FAR; n++) {

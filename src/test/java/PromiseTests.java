@@ -427,7 +427,18 @@ public final class PromiseTests {
         due("nines", lane.those(2, 999999999000L * 1000000 + 4, 1, E18), 0);
         due("nines", lane.those(2, 999999999000L * 1000000 + 3, 1000000, 1000000), 1);
         due("nines", lane.those(2, 999999999000L * 1000000 + 3, 1000001, E18), 0);
-        due("from behind to", lane.those(0, 3, 9, 4), 0);
+        // the third and ninth leave 3 + 1, the eighth and the last (even, none by three) 1 + 2
+        due("one alone", lane.those(0, 4, 9, 9), 1);
+        due("one alone", lane.those(0, 3, 8, 8), 1);
+        due("one alone", lane.those(0, 3, 9, 9), 0);
+        due("the last alone", lane.those(0, 3, E18, E18), 1);
+        due("the last alone", lane.those(0, 4, E18, E18), 0);
+        due("from above to", lane.those(0, 3, 9, 4), NONE);
+        due("from above to", lane.those(0, 3, 2, 1), NONE);
+        due("from above to", lane.those(0, 0, 2, 1), NONE);
+        due("from above to", lane.those(1, 3, 3, 2), NONE);
+        due("from above to", lane.those(1, E18, E18, E18 - 1), NONE);
+        due("from above to", lane.those(0, 3, E18, 1), NONE);
         due("no such k", lane.those(0, -1, 1, 2), NONE);
         due("no such k", lane.those(0, E18 + 1, 1, 2), NONE);
         due("no such from", lane.those(0, 3, 0, 2), NONE);
