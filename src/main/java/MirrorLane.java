@@ -793,10 +793,9 @@ public final class MirrorLane {
         }
 
         private void readTimes() {
-            at++;
             times = 0;
-            while (at < size && Grammar.isDigit(text[at])) {
-                times = times * 10 + take() - '0';
+            for (at++; at < size && Grammar.isDigit(text[at]); at++) {
+                times = times * 10 + text[at] - '0';
             }
         }
 
