@@ -567,6 +567,11 @@ public final class TermEdgeTests {
             due("mend", lane.mend(w), NONE);
         }
         due("back", Checks.back(lane, 3), 9);
+        due("made by others", lane.made(9), 3);
+        anew(lane, 1, "x1", 1);
+        due("told anew itself", lane.is(1, 3), 0);
+        due("told anew itself", lane.joined(1, 1), 6);
+        due("the other stays so", lane.is(2, 3), 1);
     }
 
     private static void closedByCaps() {
